@@ -1695,18 +1695,14 @@ public final class RansomPieces {
         expect(')');
       } else {
         readSum();
-        readOtherSide();
-      }
-    }
-
-    private void readOtherSide() {
-      int sign = token[at];
-      if (fault == 0 && (sign == '<' || sign == '=' || sign == '>')) {
-        step();
-        readSum();
-        law.put(sign);
-      } else {
-        fail(FAULT_PLACE);
+        int sign = token[at];
+        if (fault == 0 && (sign == '<' || sign == '=' || sign == '>')) {
+          step();
+          readSum();
+          law.put(sign);
+        } else {
+          fail(FAULT_PLACE);
+        }
       }
     }
 

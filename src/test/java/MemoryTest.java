@@ -156,8 +156,10 @@ public final class MemoryTest {
     Check.tell(x, 1, "wear 2;");
     Check.tell(x, 4, "cry 2;pay 1 by 0;");
     x.letter(1);
-    x.sight(0, 1, 1);
+    x.letter(3);
+    x.sight(0, 0, 1);
     x.errand(2, 2);
+    x.errand(3, 2);
     x.set(1, 0, 44);
     x.set(2, 0, 3);
     x.set(3, 0, 5);
@@ -179,7 +181,10 @@ public final class MemoryTest {
       Check.tell(x, 2, "");
       Check.tell(x, 4, "");
       x.letter(7);
-      x.sight(1, 1, 1);
+      x.sight(-1, 0, 0);
+      x.sight(1, 0, 90);
+      x.sight(1, 0, 90);
+      x.errand(-1, 0);
       x.errand(1, 1);
       for (int i = 0; i < 8; i++) {
         x.set(i, 1, 50);
@@ -206,8 +211,10 @@ public final class MemoryTest {
       c.due("THE HILLS", x.mud(0, 60), 0);
       c.due("THE BOOK", x.book(0, 3), 11);
       c.due("LETTERS", x.letters(0), 1);
-      c.due("SIGHTS", x.wrong(), 0);
-      c.due("ERRANDS", x.messengers(1), 2);
+      c.due("LETTERS", x.letters(10), 1);
+      c.due("SIGHTS", x.wrong(), 1);
+      c.due("ERRANDS", x.messengers(0), 2);
+      c.due("ERRANDS", x.messengers(1), 3);
       c.due("LEAST", x.least(0), 52);
       c.due("nothing can be undone", x.undo(), false);
       c.due("THE PLAN", x.goes(), 1);

@@ -86,6 +86,10 @@ public final class TextsTest {
     c.faulty(x, 0, "price ", 1, 6);
     c.faulty(x, 0, "Price 1;", 1, 0);
     c.faulty(x, 0, "prices 1;", 1, 0);
+    c.faulty(x, 0, "priceA 1;", 1, 0);
+    c.faulty(x, 0, "priceZ 1;", 1, 0);
+    c.faulty(x, 0, "pricez 1;", 1, 0);
+    c.sound(x, 0, "price 9999/9999;", 1);
     c.faulty(x, 0, "pric 1;", 1, 0);
     c.faulty(x, 0, "price 1", 1, 7);
     c.faulty(x, 0, "price 1;;", 1, 8);
@@ -244,6 +248,13 @@ public final class TextsTest {
     price("price 5 when not not 2>1;price 6;", 5);
     price("price 5 when 1=2 or 1=2 or 1=1;price 6;", 5);
     price("price 5 when 1=1 and 1=1 and 1=2;price 6;", 6);
+    price("price 5 when 1=2 and 1=1;price 6;", 6);
+    price("price 5 when 1=1 and 1=1;price 6;", 5);
+    price("price 5 when 1=2 and 1=1 or 1=3 and 4>3 or 2=3;price 6;", 6);
+    price("price worth/1;", 100);
+    price("price 0-worth when 1=2;price worth/9999*5+4;", 4);
+    price(Check.times("price 5 when 1=2;", 15) + "price 1+1+wears;", 19);
+    price("price 1 when " + Check.times("(1=1 and(1=2 or ", 4) + "2<3" + Check.times("))", 4) + ";price 2;", 1);
     price("price 5 when 1=2 and 1=1 or 3=3 and 4>3;price 6;", 5);
     price("price 5 when 2<2;price 6 when 2>2;price 7 when 2=2;", 7);
     price("price 5 when 9999*9999*9999*9999<0;price 6;", 9999 * 9999 * 9999 * 9999 < 0 ? 5 : 6);

@@ -102,6 +102,16 @@ public final class ThoughtTest {
     x.weeks(1);
     c.due("a WEEK on", x.least(0), 10 + 1 + 1 + 3 * (19 + 29));
     x = Check.open(7, 8, 9);
+    Check.tell(x, 0, "price 900-week*10;");
+    x.set(5, 0, 12);
+    x.weeks(5);
+    way(x, -1, -1, -1, -1, -1, 0, 1, 2, -1);
+    x.set(5, 0, 8);
+    way(x, -1, 0, 1, 2, -1, -1, -1, -1, -1);
+    x.set(5, 0, 60);
+    c.due("at THAW 60", x.least(10 + 55), 2);
+    c.due("at THAW 60", x.least(10 + 54), 1);
+    x = Check.open(7, 8, 9);
     Check.tell(x, 0, "price last+1;");
     x.pay(1, 0);
     c.due("LAST as it is", x.least(0), 9 + 8);
@@ -139,6 +149,7 @@ public final class ThoughtTest {
     c.due("round about", x.orders(10), -1);
     Check.tell(x, 3, "0 after 7;");
     c.due("after HIM", x.orders(0), 0);
+    c.due("one order", Check.with(5).orders(10), 0);
     c.due("nothing", new RansomPieces().orders(0), 1);
     c.due("nothing", new RansomPieces().orders(10), -1);
   }
@@ -158,6 +169,8 @@ public final class ThoughtTest {
     c.due("wide", x.fits(-5, 1000, 3, 2), 15);
     c.due("the first line's MUD alone", x.fits(0, 99, 3, 4), 0);
     c.due("another WEEK's", x.fits(0, 99, 2, 4), 15);
+    c.due("WEEK 0", x.fits(0, 99, 0, 4), 15);
+    c.due("MUD 0", x.fits(0, 99, 3, 0), 0);
     c.due("not open", x.fits(0, 99, 10, 4), 0);
     c.due("60, 5", x.fits(0, 99, 60, 5), 15);
     c.due("WEEK 61", x.fits(0, 99, 61, 4), -1);
@@ -189,6 +202,10 @@ public final class ThoughtTest {
     c.due("none", x.letters(0), 1);
     c.due("none", x.letters(10), -1);
     c.due("letter(8)", x.letter(8), -1);
+    RansomPieces one = Check.with(1, 2, 3);
+    one.letter(2);
+    one.letter(5);
+    c.due("a first one that doesn't fit", one.letters(0), 0);
     c.due("letter(-1)", x.letter(-1), -1);
     c.due("letter(1)", x.letter(1), 0);
     c.due("letter(7)", x.letter(7), 1);
@@ -244,6 +261,13 @@ public final class ThoughtTest {
     c.due("wrong()", x.wrong(), 0);
     x.set(7, 0, 5);
     x.weeks(1);
+    c.due("more than now, the first", x.sight(0, 1, 7), 1);
+    c.due("wrong()", x.wrong(), 1);
+    x.sight(-1, 0, 0);
+    x.sight(2, 40, 5);
+    x.sight(2, 41, 4);
+    c.due("the first two", x.wrong(), 4);
+    x.sight(-1, 0, 0);
     c.due("as now", x.sight(0, 1, 6), 1);
     c.due("wrong()", x.wrong(), 0);
     c.due("more than now", x.sight(1, 1, 2), 2);
@@ -329,6 +353,9 @@ public final class ThoughtTest {
     c.due("c's", x.share(99999, 99, 98, 0), 99999 * 99 / 197);
     c.due("d's", x.share(99999, 99, 98, 1), 99999 * 98 / 197);
     c.due("left", x.share(99999, 99, 98, 2), 99999 - 99999 * 99 / 197 - 99999 * 98 / 197);
+    c.due("1 to 1", x.share(11, 1, 1, 0), 5);
+    c.due("1 to 1", x.share(11, 1, 1, 2), 1);
+    c.due("99 to 99", x.share(99999, 99, 99, 1), 49999);
     c.due("even", x.share(10, 3, 2, 0), 6);
     c.due("even", x.share(10, 3, 2, 1), 4);
     c.due("even", x.share(10, 3, 2, 2), 0);
