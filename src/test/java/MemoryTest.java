@@ -182,8 +182,8 @@ public final class MemoryTest {
       Check.tell(x, 4, "");
       x.letter(7);
       x.sight(-1, 0, 0);
-      x.sight(1, 0, 90);
-      x.sight(1, 0, 90);
+      x.sight(1, 50, 0);
+      x.sight(1, 51, 0);
       x.errand(-1, 0);
       x.errand(1, 1);
       for (int i = 0; i < 8; i++) {

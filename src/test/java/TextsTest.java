@@ -251,7 +251,7 @@ public final class TextsTest {
     price("price 5 when 1=2 and 1=1;price 6;", 6);
     price("price 5 when 1=1 and 1=1;price 6;", 5);
     price("price 5 when 1=2 and 1=1 or 1=3 and 4>3 or 2=3;price 6;", 6);
-    price("price worth/1;", 100);
+    price("price 7/1;", 7);
     price("price 0-worth when 1=2;price worth/9999*5+4;", 4);
     price(Check.times("price 5 when 1=2;", 15) + "price 1+1+wears;", 19);
     price("price 1 when " + Check.times("(1=1 and(1=2 or ", 4) + "2<3" + Check.times("))", 4) + ";price 2;", 1);

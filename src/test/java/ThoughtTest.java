@@ -311,6 +311,13 @@ public final class ThoughtTest {
     c.due("CRIES end first", x.lasts(), -1);
     Check.tell(x, 1, "eat credit/2+1;");
     c.due("by CREDIT as it goes: 6 3 2", x.lasts(), 3);
+    RansomPieces y = Check.with(10, 20);
+    y.set(3, 0, 1000);
+    y.set(1, 0, 20);
+    y.weeks(1);
+    Check.tell(y, 1, "eat 1+thing+worth+wears+rival*5;");
+    y.of(0, 5);
+    c.due("without a THING", y.lasts(), 19);
     Check.tell(x, 1, "eat 9999;");
     x.set(1, 0, 200);
     c.due("held to 99", x.lasts(), 3);
