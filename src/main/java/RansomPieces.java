@@ -238,9 +238,10 @@ public final class RansomPieces {
     if (!within(n, 1, MOST_AT_ONCE) || world.fate.week + n > LAST_WEEK) {
       return NONE;
     }
-    rememberDeed();
     int taken = 0;
     for (int i = 0; i < n; i++) {
+      // each WEEK is a deed of its own, so UNDO takes back the latest alone
+      rememberDeed();
       if (world.passWeek()) {
         taken++;
       }

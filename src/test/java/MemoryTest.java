@@ -5,6 +5,8 @@ public final class MemoryTest {
   public static void main(String[] args) {
     undo();
     undoSix();
+    undoOneWeek();
+    undoPlanWhole();
     forgets();
     image();
     look();
@@ -26,7 +28,7 @@ public final class MemoryTest {
     int credit = x.look(4);
     c.due("the RIVAL took one", x.of(1, 2), 2);
     x.goes();
-    c.due("look(17)", x.look(17), 4);
+    c.due("look(17)", x.look(17), 6);
     c.due("A PLAN goes back", x.undo(), true);
     c.due("STATE", x.look(8), state);
     c.due("CREDIT", x.look(4), credit);
@@ -36,8 +38,12 @@ public final class MemoryTest {
     c.due("PASS", x.of(1, 4), -1);
     c.due("THE BOOK", x.look(7), 3);
     c.due("no line", x.book(3, 0), -2);
-    c.due("WEEKS go back at once", x.undo(), true);
-    c.due("WEEK", x.look(2), 0);
+    for (int week = 2; week >= 0; week--) {
+      c.due("a WEEK goes back", x.undo(), true);
+      c.due("WEEK", x.look(2), week);
+      c.due("CRIES", x.look(5), 5 - week);
+      c.due("WEAR", x.of(2, 1), week);
+    }
     c.due("STATE", x.look(8), 0);
     c.due("CREDIT", x.look(4), 50);
     c.due("CRIES", x.look(5), 5);
@@ -79,6 +85,62 @@ public final class MemoryTest {
     x.cry(20);
     c.due("one more", x.undo(), true);
     c.due("CRIES", x.look(5), 6);
+  }
+
+  private static void undoOneWeek() {
+    c.part("30 weeks(n) is n WEEKS done");
+    RansomPieces x = Check.open(10, 20, 30, 40);
+    x.set(1, 0, 50);
+    x.set(2, 0, 1);
+    x.set(3, 0, 1000);
+    c.due("weeks(2)", x.weeks(2), 2);
+    c.due("two can be undone", x.look(17), 2);
+    c.due("the second", x.undo(), true);
+    c.due("the first stands", x.look(2), 1);
+    c.due("WEAR", x.of(3, 1), 1);
+    c.due("CREDIT", x.look(4), 49);
+    c.due("STATE", x.look(8), 1013904223);
+    c.due("the RIVAL's first", x.of(0, 2), 2);
+    c.due("not his second", x.of(1, 2), 0);
+    c.due("THE BOOK", x.look(7), 1);
+    c.due("CRIES", x.cry(1), 1);
+    c.due("a CRY and a WEEK", x.look(17), 2);
+    x.undo();
+    c.due("the first", x.undo(), true);
+    c.due("WEEK", x.look(2), 0);
+    c.due("CRIES", x.look(5), 1);
+    c.due("no more", x.undo(), false);
+    x.pay(0, 0);
+    x.weeks(20);
+    c.due("six of them are kept", x.look(17), 6);
+    for (int i = 1; i <= 6; i++) {
+      c.due("one of six", x.undo(), true);
+      c.due("WEEK", x.look(2), 20 - i);
+    }
+    c.due("the PAYING is forgotten", x.undo(), false);
+    c.due("WEEK", x.look(2), 14);
+    x.cry(1);
+    c.due("WEEKS that can't be", x.weeks(0), -1);
+    x.weeks(20);
+    x.weeks(20);
+    c.due("WEEKS that can't be", x.weeks(7), -1);
+    x.undo();
+    c.due("nothing of them was kept", x.look(2), 53);
+    c.due("look(17)", x.look(17), 5);
+  }
+
+  private static void undoPlanWhole() {
+    c.part("30 A PLAN is one, its WEEKS too");
+    RansomPieces x = Check.open(10, 20);
+    Check.tell(x, 4, "cry 9;again 3(wait 2;)pay 0 by 0;");
+    x.weeks(2);
+    c.due("goes", x.goes(), 5);
+    c.due("one more", x.look(17), 3);
+    x.undo();
+    c.due("WEEK", x.look(2), 2);
+    c.due("CRIES", x.look(5), 0);
+    x.undo();
+    c.due("WEEK", x.look(2), 1);
   }
 
   private static RansomPieces done() {

@@ -655,9 +655,9 @@ final class SlowModel {
     if (n < 1 || n > 20 || w.week + n > 60) {
       return NONE;
     }
-    keep(w.copy());
     int took = 0;
     for (int i = 0; i < n; i++) {
+      keep(w.copy());
       took += weekNow();
     }
     return took;
