@@ -328,6 +328,7 @@ public final class ThoughtTest {
     RansomPieces x = new RansomPieces();
     for (int g = 2; g <= 12; g++) {
       for (int p = 1; p <= 9; p++) {
+        x = new RansomPieces();
         for (int i = 1; i < g; i++) {
           double won = x.cards(i, g, p, 0);
           double by = x.cards(i, g, p, 1);

@@ -1,3 +1,5 @@
+import java.util.function.Supplier;
+
 /** What the tests of the project share: counting wrong answers, telling texts. */
 final class Check {
   private int wrong;
@@ -55,6 +57,36 @@ final class Check {
     due("text(" + k + ") of '" + text + "'", tell(x, k, text), -1);
     due("fault(0) of '" + text + "'", x.fault(0), fault);
     due("fault(1) of '" + text + "'", x.fault(1), place);
+  }
+
+  /** The place is where the @ stands, which is no part of the text. */
+  void faultAt(RansomPieces x, int k, int fault, String marked) {
+    int place = marked.indexOf('@');
+    faulty(x, k, marked.substring(0, place) + marked.substring(place + 1), fault, place);
+  }
+
+  /** That a call answers so and changes nothing: its object and a twin that did not have the call look the same then. */
+  void leaves(String name, Supplier<RansomPieces> made, Seen.Call call, long want) {
+    RansomPieces x = made.get();
+    due(name, call.on(x), want);
+    String[] had = Seen.of(x).split("\n");
+    String[] twin = Seen.of(made.get()).split("\n");
+    int i = 0;
+    while (i < had.length && i < twin.length && had[i].equals(twin[i])) {
+      i++;
+    }
+    boolean same = had.length == twin.length && i == had.length;
+    due(name + " changes nothing" + (same || i >= had.length || i >= twin.length ? "" : " (" + had[i] + ", was " + twin[i] + ")"),
+        same, true);
+  }
+
+  /** A STATE (not below from) from which the first DRAW of m is this one. */
+  static int stateFor(int from, int m, int draw) {
+    int state = from;
+    while (((state * 1664525 + 1013904223) >>> 8) % m != draw) {
+      state++;
+    }
+    return state;
   }
 
   static String times(String text, int n) {
