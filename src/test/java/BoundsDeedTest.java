@@ -7,6 +7,7 @@ public final class BoundsDeedTest {
   public static void main(String[] args) {
     priceHeld();
     priceNone();
+    comparing();
     intsWrap();
     partsGoTowardsNought();
     whatPricesAsk();
@@ -79,6 +80,28 @@ public final class BoundsDeedTest {
     c.due("no line's B is so", x.of(0, 5), 1);
     c.due("the first line's is", x.of(1, 5), 5);
     c.due("no line's B is so", x.of(2, 5), 999);
+  }
+
+  private static void comparing() {
+    c.part("C = E (< | = | >) E, or, and, not at their edges");
+    int[] less = {5, 6, 6};
+    int[] same = {6, 5, 6};
+    int[] more = {6, 6, 5};
+    for (int i = 0; i < 3; i++) {
+      price("price 5 when " + (i + 1) + "<2;price 6;", less[i]);
+      price("price 5 when " + (i + 1) + "=2;price 6;", same[i]);
+      price("price 5 when " + (i + 1) + ">2;price 6;", more[i]);
+    }
+    String[] truths = {"1=2", "1=1"};
+    for (int i = 0; i < 4; i++) {
+      String a = truths[i / 2];
+      String b = truths[i % 2];
+      price("price 5 when " + a + " and " + b + ";price 6;", i == 3 ? 5 : 6);
+      price("price 5 when " + a + " or " + b + ";price 6;", i == 0 ? 6 : 5);
+      price("price 5 when not " + a + " and " + b + ";price 6;", i == 1 ? 5 : 6);
+      price("price 5 when not (" + a + " or " + b + ");price 6;", i == 0 ? 5 : 6);
+      price("price 5 when 1=1 or " + a + " and " + b + ";price 6;", 5);
+    }
   }
 
   private static void intsWrap() {
@@ -661,6 +684,8 @@ public final class BoundsDeedTest {
     c.due("the last is the RIVAL's first", x.book(119, 1), 2);
     c.due("the last is the RIVAL's first", x.book(119, 2), 0);
     c.due("lines", x.look(7), 120);
+    c.due("its PRICE", x.book(119, 3), 0);
+    c.due("its PASS", x.book(119, 4), -1);
     c.due("both", x.of(1, 2), 2);
   }
 }

@@ -17,6 +17,8 @@ public final class BoundsMemoryTest {
     imageNone();
     imageOfNothing();
     imageOfMuch();
+    imageOfTheBook();
+    cameInThisWeek();
     imageMoreThanOnce();
     imageLeavesOut();
     lookBounds();
@@ -367,6 +369,10 @@ public final class BoundsMemoryTest {
     }
     x.sight(-1, 0, 0);
     x.errand(-1, 0);
+    for (int i = 0; i < 12; i++) {
+      x.sight(1, i, i);
+      x.errand(i, 1);
+    }
     c.due("gone back to", x.image(false), true);
     int[] now = looks(x);
     for (int i = 0; i < now.length; i++) {
@@ -393,6 +399,47 @@ public final class BoundsMemoryTest {
     c.due("60 deeds", x.goes(), 60);
     x.weeks(1);
     c.due("the 16th line of WEEKS", x.of(5, 1), 4);
+  }
+
+  private static void imageOfTheBook() {
+    c.part("31: THE BOOK as it was, though it was undone and written anew since");
+    RansomPieces x = new RansomPieces();
+    x.cry(5);
+    x.cry(6);
+    x.image(true);
+    x.undo();
+    x.undo();
+    x.weeks(1);
+    x.cry(9);
+    x.cry(8);
+    x.cry(7);
+    x.image(false);
+    c.due("lines", x.look(7), 2);
+    c.due("the first", x.book(0, 2), 5);
+    c.due("the second", x.book(1, 2), 6);
+    c.due("its WEEK", x.book(1, 0), 0);
+    c.due("no third", x.book(2, 0), -2);
+  }
+
+  private static void cameInThisWeek() {
+    c.part("30, 31: whether one came in this WEEK goes back too");
+    RansomPieces x = Check.open(10, 20);
+    x.image(true);
+    x.pay(0, 0);
+    x.undo();
+    c.due("the PAYING undone", x.of(0, 6), 1);
+    x.pay(0, 0);
+    x.weeks(1);
+    c.due("a WEEK on", x.of(1, 6), 1);
+    x.undo();
+    c.due("the WEEK undone", x.of(1, 6), 0);
+    x.image(false);
+    c.due("ahead of it", x.of(0, 6), 1);
+    x.pay(0, 0);
+    x.image(true);
+    x.weeks(1);
+    x.image(false);
+    c.due("behind it", x.of(1, 6), 0);
   }
 
   private static void imageMoreThanOnce() {

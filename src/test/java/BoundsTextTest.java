@@ -25,6 +25,7 @@ public final class BoundsTextTest {
     afterThings();
     planNumbers();
     lawLines();
+    lawsAnew();
     hillLines();
     afterLines();
     openOnes();
@@ -316,8 +317,16 @@ public final class BoundsTextTest {
     c.faultAt(x, 0, 1, "price @worthy;");
     c.faultAt(x, 0, 1, "price 1 when @notnot 1=1;");
     c.faultAt(x, 0, 1, "@aprice 1;");
-    c.faultAt(x, 0, 1, "price 1 @z;");
-    c.faultAt(x, 0, 1, "price 1 @Z;");
+    for (String one : new String[] {"a", "z", "A", "Z", "m", "M"}) {
+      c.faultAt(x, 0, 1, "price 1 @" + one + ";");
+      c.faultAt(x, 0, 1, "@price" + one + " 1;");
+      c.faultAt(x, 0, 1, "@" + one + "price 1;");
+    }
+    for (String one : new String[] {"@", "[", "`", "{", "_"}) {
+      int place = "price".length();
+      c.faulty(x, 0, "price" + one + "1;", 1, place);
+      c.faulty(x, 0, "price 1" + one + ";", 1, place + 2);
+    }
     String[] own = {"price", "wear", "eat", "gain", "pass", "cave", "after", "pay", "cry", "wait", "again"};
     List<Set<String>> begins = List.of(Set.of("price"), Set.of("wear", "eat", "gain"), Set.of("pass", "cave"), Set.of(),
         Set.of("pay", "cry", "wait", "again"));
@@ -462,6 +471,9 @@ public final class BoundsTextTest {
     c.sound(x, 0, Check.times("price 3 when 1=2;", 14) + "price 4;", 15);
     c.sound(x, 0, Check.times("price 3 when 1=2;", 15) + "price 4;", 16);
     c.due("the 16th line counts", x.of(0, 5), 4);
+    c.sound(x, 0, Check.times("price 3 when 1=2;", 15) + "price 1+2*3 when 1+2*3=7;", 16);
+    c.due("the 16th line, whole", x.of(0, 5), 7);
+    c.sound(x, 0, Check.times("price 3 when 1=2;", 15) + "price 4;", 16);
     c.faultAt(x, 0, 3, Check.times("price 5;", 16) + "@price 5;");
     c.faultAt(x, 0, 3, Check.times("price 5;", 16) + " \n@price");
     c.faultAt(x, 0, 3, Check.times("price 5;", 16) + "@price 1/0;");
@@ -473,6 +485,22 @@ public final class BoundsTextTest {
     c.due("lines", x.look(10), 16);
     x.weeks(1);
     c.due("the 16th line counts", x.of(0, 1), 4);
+  }
+
+  private static void lawsAnew() {
+    c.part("a LAW told anew has its own lines alone, however often");
+    RansomPieces x = three();
+    for (int i = 0; i < 12; i++) {
+      c.sound(x, 0, "price " + i + Check.times("+1", 150) + ";", 1);
+      c.due("PRICE", x.of(0, 5), 150 + i);
+    }
+    RansomPieces y = three();
+    for (int i = 0; i < 12; i++) {
+      c.sound(y, 1, "wear " + i + Check.times("*1", 150) + ";", 1);
+      y.set(7, 0, 0);
+      y.weeks(1);
+      c.due("WEAR", y.of(0, 1), i);
+    }
   }
 
   private static void hillLines() {
@@ -531,6 +559,11 @@ public final class BoundsTextTest {
     c.faultAt(x, 0, 3, when + "((((((((1=1)and(1=1)and(@(1=1");
     c.sound(x, 0, when + "((((((((1=1)and 1=1)))))));", 1);
     c.sound(x, 0, Check.times(when + "((((1=1))));", 9), 9);
+    String deepest = when + Check.times("1=2 or 1=1 and(", 8) + "1=2 or 1=1 and 1+2*3@4+5*6" + ")".repeat(8) + ";price 6;";
+    c.sound(x, 0, deepest.replace('@', '<'), 2);
+    c.due("all that can wait at once, so", x.of(0, 5), 5);
+    c.sound(x, 0, deepest.replace('@', '>'), 2);
+    c.due("all that can wait at once, not so", x.of(0, 5), 6);
   }
 
   private static void openAgains() {

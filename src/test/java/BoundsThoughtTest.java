@@ -561,6 +561,11 @@ public final class BoundsThoughtTest {
     x.sight(0, 3, 1);
     c.due("HOME: its WEAR stays", x.wrong(), 1);
     c.due("no SIGHT", Check.with(1).wrong(), 0);
+    x = Check.with(worths(8));
+    x.sight(7, 0, 1);
+    c.due("THING 7", x.wrong(), 128);
+    x.sight(0, 0, 1);
+    c.due("THING 0 too", x.wrong(), 129);
   }
 
   // ---- 24 to 28
@@ -588,6 +593,7 @@ public final class BoundsThoughtTest {
     c.due("CREDIT 100, eat 100", lasting(100, "eat 100;"), 2);
     c.due("CREDIT 99, eat 100", lasting(99, "eat 100;"), 1);
     c.due("CREDIT 98, eat 99", lasting(98, "eat 99;"), 1);
+    c.due("CRIES 0 at least", lasting(3, "eat cries+1;"), 3);
     RansomPieces x = new RansomPieces();
     x.set(1, 0, 3);
     x.set(4, 0, 99);
@@ -642,7 +648,7 @@ public final class BoundsThoughtTest {
     int[][] cant = {
       {-1, 1, 1, 0}, {100000, 1, 1, 0}, {MIN, 1, 1, 0}, {MAX, 1, 1, 0}, {5, 0, 1, 0}, {5, 100, 1, 0}, {5, -1, 1, 0}, {5, MIN, 1, 0},
       {5, MAX, 1, 0}, {5, 1, 0, 0}, {5, 1, 100, 0}, {5, 1, -1, 0}, {5, 1, MIN, 0}, {5, 1, MAX, 0}, {5, 1, 1, -1}, {5, 1, 1, 3},
-      {5, 1, 1, MIN}, {5, 1, 1, MAX}, {5, 0, 0, 0}, {5, 1, -1, 2}
+      {5, 1, 1, MIN}, {5, 1, 1, MAX}, {5, 0, 0, 0}, {5, 1, -1, 2}, {-1, 1, 1, 2}, {-1, 99, 99, 2}, {100000, 1, 1, 2}
     };
     for (int[] one : cant) {
       c.due("share(" + one[0] + ", " + one[1] + ", " + one[2] + ", " + one[3] + ")", x.share(one[0], one[1], one[2], one[3]), -1);

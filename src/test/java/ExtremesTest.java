@@ -49,7 +49,7 @@ public final class ExtremesTest {
     }
     RansomPieces x = made(state);
     for (int i = 0; i < total; i++) {
-      if (i % 500 == 499) {
+      if (i % 400 == 399) {
         x = made(state);
       }
       Object[] given = new Object[types.length];
