@@ -10,7 +10,10 @@ import java.util.TreeSet;
 import java.util.regex.Matcher;
 import java.util.regex.Pattern;
 
-/** The public face and those rules of LANGUAGE.md that can be seen from the class and its source. */
+/**
+ * The public face, those rules of LANGUAGE.md that can be seen from the class and its source, and that objects are made
+ * in constructors alone, as README.md says.
+ */
 public final class LanguageTest {
   private static final Check c = new Check();
 
@@ -136,6 +139,10 @@ public final class LanguageTest {
           end++;
         }
         c.due(lines[i].trim() + " has some sixty lines", end - i <= 60, true);
+        boolean constructor = lines[i].trim().matches("(public )?[A-Z]\\w*\\(.*");
+        for (int j = i; j < end && !constructor; j++) {
+          c.due(lines[j].trim() + " makes nothing", Pattern.compile("\\bnew\\b").matcher(lines[j]).find(), false);
+        }
       }
     }
   }

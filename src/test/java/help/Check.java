@@ -1,3 +1,4 @@
+import java.io.File;
 import java.util.function.Supplier;
 
 /** What the tests of the project share: counting wrong answers, telling texts. */
@@ -108,6 +109,15 @@ final class Check {
     tell(x, 2, "pass 0 from 0 to 60 mud 0;");
     x.set(0, 0, 99999);
     return x;
+  }
+
+  /** What a test put into a room of its own is gone behind it. */
+  static void clear(File room) {
+    File[] inside = room.listFiles();
+    for (File one : inside == null ? new File[0] : inside) {
+      clear(one);
+    }
+    room.delete();
   }
 
   void finish() {
