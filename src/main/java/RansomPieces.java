@@ -428,18 +428,8 @@ public final class RansomPieces {
     if (!within(what, 0, 1)) {
       return NONE;
     }
-    int most = NONE;
-    int hardest = NONE;
-    for (int i = 0; i < world.things - 1; i++) {
-      if (world.fate.how[i] == HELD) {
-        thought.solve(i);
-        if (thought.canBe() && thought.sum > most) {
-          most = thought.sum;
-          hardest = i;
-        }
-      }
-    }
-    return what == 0 ? hardest : most;
+    thought.findHardest();
+    return what == 0 ? thought.hardest : thought.most;
   }
 
   public boolean undo() {
@@ -1296,30 +1286,41 @@ public final class RansomPieces {
     static final int UNSOLVED = -2;
     static final int NO_THING = 8;
     static final int ALL_NO_THING = 0x88888888;
+    /** HIM is HOME in the whole set alone, from which nothing is chosen, so half of the sets have no choices. */
+    static final int CHOOSING = SETS / 2;
 
     final World world;
     final int[] cost;
     final int[] choices;
     /** By THING, how many are HOME, LAST: fewer than there are sets, so they are asked for but once each. */
     final int[] prices;
+    /** By set, the THINGS that can come next: the same in every WEEK. */
+    final int[] ready;
     int home;
     int all;
     int week;
+    boolean byHome;
+    boolean byLast;
     /** The THING that is thought to be with the RIVAL (NONE: all as it is), or UNSOLVED. */
     int taken;
     int sum;
     int waiting;
+    boolean hardestKnown;
+    int hardest;
+    int most;
 
     Least(World asked) {
       world = asked;
       cost = new int[SETS * THINGS];
-      choices = new int[(LAST_WEEK + 1) * SETS];
+      choices = new int[(LAST_WEEK + 1) * CHOOSING];
       prices = new int[THINGS * THINGS * THINGS];
+      ready = new int[SETS];
       taken = UNSOLVED;
     }
 
     void forget() {
       taken = UNSOLVED;
+      hardestKnown = false;
     }
 
     boolean canBe() {
@@ -1330,11 +1331,31 @@ public final class RansomPieces {
       return waiting < NEVER ? waiting - sum : NONE;
     }
 
-    void solve(int thoughtTaken) {
-      if (taken == thoughtTaken) {
+    void findHardest() {
+      if (hardestKnown) {
         return;
       }
-      taken = thoughtTaken;
+      hardestKnown = true;
+      hardest = NONE;
+      most = NONE;
+      for (int i = 0; i < world.things - 1; i++) {
+        if (world.fate.how[i] == HELD) {
+          solve(i);
+          if (canBe() && sum > most) {
+            most = sum;
+            hardest = i;
+          }
+        }
+      }
+    }
+
+    void solve(int thoughtTaken) {
+      // a LAW that does not ask for it says the same whoever has a THING
+      int asked = world.prices.asksFor(WORD + GIVEN_RIVAL) ? thoughtTaken : NONE;
+      if (taken == asked) {
+        return;
+      }
+      taken = asked;
       home = world.homeSet();
       all = world.all();
       sum = NEVER;
@@ -1342,13 +1363,16 @@ public final class RansomPieces {
       if (world.fate.week > world.thaw) {
         return;
       }
+      byHome = world.prices.asksFor(WORD + GIVEN_HOME);
+      byLast = world.prices.asksFor(WORD + GIVEN_LAST);
+      boolean byWeek = world.prices.asksFor(WORD + GIVEN_WEEK);
+      findReady();
       Arrays.fill(cost, NEVER);
       Arrays.fill(cost, all * THINGS, all * THINGS + THINGS, 0);
-      boolean priceByWeek = world.prices.asksFor(WORD + GIVEN_WEEK);
       for (int then = world.thaw; then >= world.fate.week; then--) {
         week = then;
         waiting = cost[home * THINGS];
-        if (priceByWeek || then == world.thaw) {
+        if (byWeek || then == world.thaw) {
           askPrices();
         }
         settleWeek();
@@ -1356,12 +1380,29 @@ public final class RansomPieces {
       sum = cost[home * THINGS];
     }
 
+    private void findReady() {
+      for (int set = home; set <= all; set++) {
+        int next = 0;
+        for (int i = 0; i < world.things; i++) {
+          if ((set >> i & 1) == 0 && world.isReady(i, set)) {
+            next |= 1 << i;
+          }
+        }
+        ready[set] = next;
+      }
+    }
+
+    /** One column beyond the first does for all, if the LAW does not ask how many are HOME. */
+    private int columnOf(int many) {
+      return byHome ? many : Math.min(many, Integer.bitCount(home) + 1);
+    }
+
     private void askPrices() {
       int atFirst = Integer.bitCount(home);
       for (int thing = 0; thing < world.things; thing++) {
         boolean withRival = thing == taken || world.fate.how[thing] == RIVAL;
-        for (int many = atFirst; many < world.things; many++) {
-          int slots = many == atFirst ? 1 : world.things;
+        for (int many = atFirst; many <= columnOf(world.things - 1); many++) {
+          int slots = many > atFirst && byLast ? world.things : 1;
           for (int slot = 0; slot < slots; slot++) {
             int last = many == atFirst ? world.lastWorth() : world.worth[slot];
             prices[priceAt(thing, many, slot)] = world.priceThen(thing, week, many, last, withRival);
@@ -1370,18 +1411,17 @@ public final class RansomPieces {
       }
     }
 
-    private static int priceAt(int thing, int many, int slot) {
-      return (thing * THINGS + many) * THINGS + slot;
+    private static int priceAt(int thing, int column, int slot) {
+      return (thing * THINGS + column) * THINGS + slot;
     }
 
     /** From lesser sets to greater ones, so that each still finds the next WEEK's costs of those beyond it. */
     private void settleWeek() {
-      Arrays.fill(choices, week * SETS, week * SETS + SETS, ALL_NO_THING);
+      Arrays.fill(choices, week * CHOOSING, week * CHOOSING + CHOOSING, ALL_NO_THING);
       boolean closed = week == world.fate.week && world.fate.came || !world.hills.isAnyOpen(week);
       if (closed) {
         return;
       }
-      // HIM is HOME in the whole set alone, so half of the sets can't be
       for (int set = home; set <= all >> 1; set++) {
         if ((set & home) == home) {
           settleSet(set);
@@ -1390,7 +1430,7 @@ public final class RansomPieces {
     }
 
     private void settleSet(int set) {
-      int lasts = set == home ? 1 : set & ~home;
+      int lasts = byLast && set != home ? set & ~home : 1;
       int row = ALL_NO_THING;
       for (int slot = 0; slot < THINGS; slot++) {
         if ((lasts >> slot & 1) != 0) {
@@ -1398,17 +1438,18 @@ public final class RansomPieces {
           row = row & ~(15 << 4 * slot) | choice << 4 * slot;
         }
       }
-      choices[week * SETS + set] = row;
+      choices[week * CHOOSING + set] = row;
     }
 
     private int settle(int set, int slot) {
-      int many = Integer.bitCount(set);
+      int column = columnOf(Integer.bitCount(set));
+      int next = ready[set];
       int best = NEVER;
       int choice = NO_THING;
       for (int i = 0; i < world.things; i++) {
-        if ((set >> i & 1) == 0 && world.isReady(i, set)) {
-          int rest = cost[(set | 1 << i) * THINGS + i];
-          int whole = rest < NEVER ? rest + prices[priceAt(i, many, slot)] : NEVER;
+        if ((next >> i & 1) != 0) {
+          int rest = cost[(set | 1 << i) * THINGS + (byLast ? i : 0)];
+          int whole = rest < NEVER ? rest + prices[priceAt(i, column, slot)] : NEVER;
           if (whole < best) {
             best = whole;
             choice = i;
@@ -1429,10 +1470,10 @@ public final class RansomPieces {
       int slot = 0;
       int choice = NO_THING;
       for (int i = 0; i <= k && world.fate.week + i <= LAST_WEEK; i++) {
-        choice = choices[(world.fate.week + i) * SETS + set] >> 4 * slot & 15;
+        choice = set == all ? NO_THING : choices[(world.fate.week + i) * CHOOSING + set] >> 4 * slot & 15;
         if (choice < NO_THING) {
           set |= 1 << choice;
-          slot = choice;
+          slot = byLast ? choice : 0;
         }
       }
       return choice < NO_THING ? choice : NONE;

@@ -25,6 +25,7 @@ public final class FirstToLastTest {
     bookInItsOrder();
     leastNowAndThen();
     leastFirstWay();
+    leastByChain();
     leastByPasses();
     ordersAsTheyAreLeft();
     fitsAndKeptAsItIs();
@@ -541,6 +542,33 @@ public final class FirstToLastTest {
       c.due("least(" + (10 + i) + ")", x.least(10 + i), due[i]);
     }
     c.due("behind THAW", x.least(10 + due.length), -1);
+  }
+
+  /** Each LAST makes but one other cheap, so that the way goes by all of them, with WEEKS of waiting in between. */
+  private static void leastByChain() {
+    c.part("last as it would be then, whichever THING that is");
+    RansomPieces x = Check.open(10, 20, 30, 40, 50, 60, 70, 80);
+    x.set(5, 0, 9);
+    Check.tell(x, 0, "price 1 when last+10=worth;price 50;");
+    c.due("up", x.least(0), 8);
+    way(x, 0, 1, 2, 3, 4, 5, 6, 7, -1, -1);
+    Check.tell(x, 0, "price 1 when last=worth+10;price 1 when thing=7;price 50;");
+    c.due("down", x.least(0), 50 + 7);
+    way(x, 6, 5, 4, 3, 2, 1, 0, 7, -1, -1);
+    Check.tell(x, 2, "pass 0 from 0 to 1 mud 0;pass 1 from 3 to 4 mud 0;pass 0 from 6 to 9 mud 0;");
+    c.due("by the PASSES", x.least(0), 50 + 7);
+    way(x, 6, 5, -1, 4, 3, -1, 2, 1, 0, 7);
+    c.due("no WEEK is to spare", x.least(1), -1);
+    Check.tell(x, 2, "pass 0 from 0 to 60 mud 0;");
+    Check.tell(x, 0, "price 50 when week=2 or week=6;price 1 when last=worth+10;price 1 when thing=7;price 40;");
+    c.due("but in WEEKS 2 and 6", x.least(0), 40 + 7);
+    way(x, 6, 5, -1, 4, 3, 2, -1, 1, 0, 7);
+    x.pay(6, 0);
+    x.weeks(1);
+    x.pay(4, 0);
+    x.weeks(2);
+    c.due("LAST is 4: 3 2 1, none in WEEK 6, 0, then 5 for 40 and HIM", x.least(0), 4 + 40 + 1);
+    way(x, 3, 2, 1, -1, 0, 5, 7);
   }
 
   private static void leastByPasses() {

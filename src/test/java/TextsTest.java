@@ -256,6 +256,11 @@ public final class TextsTest {
     price(Check.times("price 5 when 1=2;", 15) + "price 1+1+wears;", 19);
     price("price 1 when " + Check.times("(1=1 and(1=2 or ", 4) + "2<3" + Check.times("))", 4) + ";price 2;", 1);
     price("price 5 when 1=2 and 1=1 or 3=3 and 4>3;price 6;", 5);
+    // as much as ever waits at once: an or and an and at each of the nine levels, then a sum of a product
+    String deepest = Check.times("1=2 or 1=1 and(", 8) + "1=2 or 1=1 and 1+2*3=1+2*";
+    price("price 5 when " + deepest + "3" + Check.times(")", 8) + ";price 6;", 5);
+    price("price 5 when " + deepest + "4" + Check.times(")", 8) + ";price 6;", 6);
+    price("price 5 when " + Check.times("1=1 or 1=1 and(", 8) + "2=1" + Check.times(")", 8) + ";price 6;", 5);
     price("price 5 when 2<2;price 6 when 2>2;price 7 when 2=2;", 7);
     price("price 5 when 9999*9999*9999*9999<0;price 6;", 9999 * 9999 * 9999 * 9999 < 0 ? 5 : 6);
   }
